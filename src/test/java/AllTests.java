@@ -4,6 +4,15 @@ public final class AllTests {
     }
 
     public static void main(String[] args) {
+        FaceTest.run();
+        AppendTest.run();
+        LoadTest.run();
+        AskTest.run();
+        TickTest.run();
+        ForesightTest.run();
+        ChangeTest.run();
+        UndoTest.run();
+        RandomTest.run();
         System.out.println(Check.made + " checks, " + Check.wrong + " wrong");
         if (Check.wrong != 0) {
             System.exit(1);
