@@ -160,6 +160,10 @@ final class AskTest {
         done.pass(5);
         Check.dueText("empty and done by a garbled answer", "22", Check.reasons(done, 0));
 
+        LampRelay single = Check.loaded("relay 1 1;" + ALONE + "mist 4 4 9;message 0 0 abc;");
+        single.pass(8);
+        Check.dueText("frames of one letter", "021", Check.reasons(single, 0));
+
         LampRelay cancelled = Check.loaded("relay 2 1;" + ALONE + "mist 1 1 9;message 0 0 azxy;");
         cancelled.pass(7);
         cancelled.cancel(0);

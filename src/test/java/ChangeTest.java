@@ -36,6 +36,29 @@ final class ChangeTest {
         Check.due("the second waits", 0, relay.message(1, 4));
         Check.due("over", 2, relay.pass(100));
         Check.due("agree", 2, relay.state(5));
+        Check.feed(relay, "abcdefghijklmnopqrst");
+        Check.due("all of the buffer", 2, relay.send(0, 0, 20));
+        sendInThePlaceOfOneThatWasUndone();
+    }
+
+    private static void sendInThePlaceOfOneThatWasUndone() {
+        LampRelay relay = new LampRelay();
+        Check.send(relay, 0, 4, "abcdefghij");
+        relay.fog(0, 30, 9);
+        relay.pass(22);
+        relay.fog(22, 22, 5);
+        relay.pass(5);
+        for (int i = 0; i < 5; i++) {
+            relay.undo();
+        }
+        Check.due("send again", 0, Check.send(relay, 1, 0, "abcdefghijk"));
+        int[] due = {1, 0, 11, 3, 0, 11, 0, 0, -1, -1};
+        for (int what = 0; what < due.length; what++) {
+            Check.due("sent again: message(0, " + what + ")", due[what], relay.message(0, what));
+        }
+        Check.due("over", 1, relay.pass(20));
+        Check.due("tries", 0, relay.message(0, 7));
+        Check.due("agree", 1, relay.state(5));
     }
 
     private static void sendThrows() {

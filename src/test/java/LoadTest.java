@@ -22,6 +22,7 @@ final class LoadTest {
         firstErrorCounts();
         errorChangesNothing();
         loadReplacesAll();
+        loadBehindForecast();
         offsetStays();
     }
 
@@ -97,6 +98,12 @@ final class LoadTest {
         error("   ", SYNTAX, 3);
         error(";", SYNTAX, 0);
         error("relays 4 3;", SYNTAX, 0);
+        error("delay 4 3;", SYNTAX, 0);
+        error("relaz 4 3;", SYNTAX, 0);
+        error("relay 4 3;list 0 0 0;", SYNTAX, 10);
+        error("relay 4 3;massage 0 0 a;", SYNTAX, 10);
+        error("relay 4 3;keepet 0 0 0;", SYNTAX, 10);
+        error("relay 4 3;Channel 0 0 0 0;", SYNTAX, 10);
         error(" rela y 4 3;", SYNTAX, 1);
         error("relay", SYNTAX, 5);
         error("relay ", SYNTAX, 6);
@@ -252,6 +259,25 @@ final class LoadTest {
         Check.due("load", 1, Check.load(relay, "relay 4 3;message 1 0 xy;"));
         Check.dueText("log", "..", Check.letters(relay, 0, true));
         Check.due("start", -1, relay.message(0, 8));
+        Check.due("tries", 0, relay.message(0, 7));
+    }
+
+    /** What was tried out for a forecast, or read before an error, must not come into a later setup. */
+    private static void loadBehindForecast() {
+        String text = "relay 3 1;message 0 2 abcdefgh;message 1 1 x;";
+        long due = Check.loaded(text).checksum();
+        LampRelay relay = Check.loaded("relay 1 3;channel 0 5 3 9;keeper 0 0 3;keeper 1 0 5;mist 2 9 7;mist 5 5 5;"
+                + "message 0 9 abcdefgh;message 0 8 ijkl;");
+        relay.foretold(0);
+        relay.leastPower(1);
+        Check.load(relay, "relay 2 9;channel 1 2 2 2;keeper 1 3 3;mist 0 0 1;message 0 5 zzz;message 1 5 z");
+        relay.foretold(1);
+        Check.due("load", 2, Check.load(relay, text));
+        Check.due("checksum", due, relay.checksum());
+        Check.due("key of 0", 0, relay.key(0, 20));
+        Check.due("key of 1", 0, relay.key(1, 20));
+        Check.due("over", 2, relay.pass(20));
+        Check.due("agree", 2, relay.state(5));
         Check.due("tries", 0, relay.message(0, 7));
     }
 
