@@ -12,7 +12,13 @@ public final class AllTests {
         ForesightTest.run();
         ChangeTest.run();
         UndoTest.run();
+        TermsTest.run();
+        SetupTest.run();
+        EdgesTest.run();
+        HistoryTest.run();
+        RefusedTest.run();
         RandomTest.run();
+        ModelTest.run();
         System.out.println(Check.made + " checks, " + Check.wrong + " wrong");
         if (Check.wrong != 0) {
             System.exit(1);

@@ -37,13 +37,33 @@ final class Check {
         }
     }
 
-    /** Also that the call leaves what can be seen of the relay, and how much can be undone. */
+    /** Also that all that can be asked is as before. RefusedTest tells of the buffer and of undo. */
     static void dueThrow(LampRelay relay, String what, Class<? extends RuntimeException> want, Call call) {
-        long before = relay.checksum();
-        int offset = relay.errorOffset();
+        String before = view(relay);
         dueThrow(what, want, call);
-        due(what + ": checksum", before, relay.checksum());
-        due(what + ": errorOffset", offset, relay.errorOffset());
+        dueText(what + ": all as before", before, view(relay));
+    }
+
+    /** All that can be asked, but of keys and mists only some ticks. */
+    static String view(LampRelay relay) {
+        StringBuilder text = new StringBuilder();
+        text.append(relay.checksum()).append(' ').append(relay.errorOffset()).append(' ').append(relay.quality());
+        for (int message = 0; message < relay.state(1); message++) {
+            text.append(' ').append(letters(relay, message, false));
+        }
+        text.append(" keys and mists");
+        for (int i = 0; i < 60; i++) {
+            int tick = i < 40 ? i : i < 50 ? i + 9955 : Math.min(relay.state(0) + i - 50, 20000);
+            text.append(' ').append(relay.key(0, tick)).append('/').append(relay.key(1, tick));
+            text.append('/').append(relay.mist(tick));
+        }
+        text.append(" next");
+        for (int k = 0; k < relay.state(3); k++) {
+            text.append(' ').append(relay.next(k));
+        }
+        text.append(" foretold ").append(relay.foretold(0)).append(' ').append(relay.foretold(1));
+        text.append(' ').append(relay.foretold(2)).append(" least ").append(relay.leastPower(0));
+        return text.append(' ').append(relay.leastPower(1)).toString();
     }
 
     private static Class<?> thrownBy(Call call) {
