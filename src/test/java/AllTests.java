@@ -1,9 +1,11 @@
+import java.io.IOException;
+
 /** Runs every test of the project; ends with exit code 1 if an answer is wrong. */
 public final class AllTests {
     private AllTests() {
     }
 
-    public static void main(String[] args) {
+    public static void main(String[] args) throws IOException, IllegalAccessException {
         FaceTest.run();
         AppendTest.run();
         LoadTest.run();
@@ -19,6 +21,7 @@ public final class AllTests {
         RefusedTest.run();
         RandomTest.run();
         ModelTest.run();
+        ReadmeTest.run();
         System.out.println(Check.made + " checks, " + Check.wrong + " wrong");
         if (Check.wrong != 0) {
             System.exit(1);

@@ -1,7 +1,10 @@
+import java.io.IOException;
 import java.lang.reflect.Constructor;
 import java.lang.reflect.Field;
 import java.lang.reflect.Method;
 import java.lang.reflect.Modifier;
+import java.nio.file.Files;
+import java.nio.file.Path;
 import java.util.TreeSet;
 
 /** The public face, and promise 1: a new object. */
@@ -9,11 +12,31 @@ final class FaceTest {
     private FaceTest() {
     }
 
-    static void run() {
+    static void run() throws IOException {
+        wordForWord();
         members();
         constants();
         newObject();
         newObjectsAreApart();
+    }
+
+    /** Each line under "The public face" stands in the class, which has no other public line. */
+    private static void wordForWord() throws IOException {
+        String document = Files.readString(Path.of("../shared/DOC.md"));
+        String source = Files.readString(Path.of("src/main/java/LampRelay.java"));
+        String words = source.replaceAll("\\s+", " ");
+        int from = document.indexOf("```java\n") + 8;
+        int lines = 0;
+        for (String line : document.substring(from, document.indexOf("```", from)).split("\n")) {
+            String due = line.strip().replaceAll("\\);$", ") {").replaceAll("Exception;$", "Exception {");
+            if (line.startsWith("import")) {
+                due = line;
+            }
+            Check.due("the class has: " + due, true, words.contains(due));
+            lines += due.startsWith("public") ? 1 : 0;
+        }
+        Check.due("public lines of the document", 28, lines);
+        Check.due("public lines of the class", lines, source.split("(?m)^ *public ", -1).length - 1);
     }
 
     private static void members() {
